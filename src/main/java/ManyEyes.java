@@ -1375,7 +1375,7 @@ public final class ManyEyes {
                     tokens.advance();
                     return chosen(Code.MAX);
                 case '(':
-                    return enter() && sum() && leave();
+                    return bracketed();
                 case '-':
                     return negated();
                 default:
@@ -1405,6 +1405,14 @@ public final class ManyEyes {
             return true;
         }
 
+        private boolean bracketed() {
+            if (!enter() || !sum() || !expect(')')) {
+                return false;
+            }
+            open--;
+            return true;
+        }
+
         private boolean negated() {
             if (!enter() || !one()) {
                 return false;
@@ -1418,9 +1426,10 @@ public final class ManyEyes {
             if (tokens.kind != '(') {
                 return refuse(CANT_STAND);
             }
-            if (!enter() || !sum() || !expect(',') || !sum() || !leave()) {
+            if (!enter() || !sum() || !expect(',') || !sum() || !expect(')')) {
                 return false;
             }
+            open--;
             emit(operation, 0);
             return true;
         }
@@ -1432,11 +1441,6 @@ public final class ManyEyes {
             open++;
             tokens.advance();
             return true;
-        }
-
-        private boolean leave() {
-            open--;
-            return expect(')');
         }
 
         private boolean expect(int kind) {
