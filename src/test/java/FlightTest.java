@@ -10,6 +10,9 @@ public final class FlightTest {
         hitsBodies();
         rests();
         reckons();
+        allLetters();
+        theLongest();
+        lensesThatWere();
         bounds();
         shortNumbers();
         lensesAndPairs();
@@ -127,6 +130,11 @@ public final class FlightTest {
         so("1#2", true);
         so("2#2", false);
         so("not 1=2", true);
+        so("not 1=1", false);
+        so("not not 1=1", true);
+        so("not not not 1=1", false);
+        so("not 1=1 or not 1=1", false);
+        so("not 1=2 and not 1=2", true);
         so("not not 1=2", false);
         so("1=1 or 1=1 and 1=2", true);
         so("1=2 and 1=1 or 1=1", true);
@@ -172,6 +180,70 @@ public final class FlightTest {
         eyes.fly(0, 8, 8, 8, 4, 0);
         for (int t = 0; t < 4; t++) {
             CHECK.due("letters on tick " + t, eyes.tick(t, 0), 1 - 2 * t);
+        }
+    }
+
+    private static void allLetters() {
+        ManyEyes eyes = with("let A 1;let B A*2;let C B*2;let D C*2;let E D*2;let F E*2;let G F*2;let H G*2;"
+            + "turn H/32-tick;go A+B+C;");
+        CHECK.due("two ticks", eyes.fly(0, 8, 8, 4, 2, 0), 2);
+        CHECK.due("128 / 32", eyes.tick(0, 0), 4);
+        CHECK.due("and one less", eyes.tick(1, 0), 3);
+        CHECK.due("1 + 2 + 4", eyes.tick(0, 1), 7);
+    }
+
+    /** All that a flight can hold. */
+    private static void theLongest() {
+        ManyEyes eyes = new ManyEyes(24, 24);
+        Check.rule(eyes, "turn tick-50;go pair 15-pair 15+(lens 15-200)*16/16;");
+        for (int cell = 0; cell < 576; cell++) {
+            if (cell / 24 % 23 == 0 || cell % 24 % 23 == 0) {
+                eyes.mark(cell, 201);
+            }
+        }
+        for (int i = 0; i < 16; i++) {
+            eyes.lens(4 * i, 7);
+        }
+        for (int i = 0; i < 16; i++) {
+            eyes.pair(i, (i + 5) % 16, 1 + i % 8);
+        }
+        eyes.body(5 * 24 + 5, 0, 0, 100);
+        CHECK.due("sixty ticks", eyes.fly(0, 200, 200, 0, 60, 0), 60);
+        CHECK.due("the last turn", eyes.tick(59, 0), 8);
+        CHECK.due("a go", eyes.tick(59, 1) >= 0 && eyes.tick(59, 1) <= 1, true);
+        CHECK.due("its place", eyes.tick(59, 2) + Math.floorDiv(eyes.tick(59, 1) * Model.way(eyes.flown(2))[0], 16),
+            eyes.flown(0));
+        CHECK.due("its head", eyes.tick(59, 4) + 8 & 63, eyes.flown(2));
+        for (int t = 51; t < 60; t++) {
+            for (int i = 0; i < 16; i++) {
+                CHECK.due("take", eyes.tick(t, 100 + i),
+                    eyes.take(i, eyes.tick(t, 2), eyes.tick(t, 3), eyes.tick(t, 4), t));
+                int past = t - 1 - i % 8;
+                int b = (i + 5) % 16;
+                CHECK.due("pair", eyes.tick(t, 200 + i), eyes.tick(past, 100 + i) * eyes.tick(t, 100 + b)
+                    - eyes.tick(t, 100 + i) * eyes.tick(past, 100 + b));
+            }
+        }
+        CHECK.due("no lens 16", eyes.tick(59, 116), NO_TICK);
+        CHECK.due("no pair 16", eyes.tick(59, 216), NO_TICK);
+        CHECK.due("no tick 60", eyes.tick(60, 0), NO_TICK);
+    }
+
+    /** What was seen by lenses that a return has taken away. */
+    private static void lensesThatWere() {
+        ManyEyes eyes = with("turn lens 0+pair 0;");
+        eyes.mark(3, 5);
+        eyes.mark(12, 5);
+        eyes.image();
+        eyes.lens(0, 0);
+        eyes.lens(16, 0);
+        eyes.pair(0, 1, 1);
+        CHECK.due("seen", eyes.fly(0, 8, 8, 8, 3, 0), 3);
+        CHECK.due("turned", eyes.tick(0, 0), 5);
+        eyes.back();
+        CHECK.due("not there", eyes.fly(0, 8, 8, 8, 3, 0), 3);
+        for (int t = 0; t < 3; t++) {
+            CHECK.due("nothing is taken on " + t, eyes.tick(t, 0), 0);
         }
     }
 
@@ -335,6 +407,13 @@ public final class FlightTest {
         CHECK.due("a body comes first to x 2, asked by x", bodies.safe(0, 8, 56, 8, 3, 3, 2, 0), 24);
         CHECK.due("within 3 ticks to x 0", bodies.safe(0, 8, 56, 8, 3, 3, 3, 0), 8);
         CHECK.due("its own cell is none", bodies.safe(0, 56, 56, 8, 3, 3, 60, 0), -1);
+        ManyEyes leaves = with("go 16;");
+        leaves.body(3, -1, 0, 5);
+        CHECK.due("even if it leaves", leaves.safe(0, 56, 56, 8, 8, 8, 60, 0), -1);
+        ManyEyes wide = with("go 1000*2-1999;");
+        wide.fly(0, 8, 8, 8, 1, 4);
+        CHECK.due("short numbers: 7 - 7", wide.tick(0, 1), 0);
+        CHECK.due("not for safe", wide.safe(0, 60, 60, 8, 8, 8, 4, 0), 60);
     }
 
     private static void wrongSpans() {
@@ -343,6 +422,10 @@ public final class FlightTest {
         CHECK.due("64 starts in two", eyes.safe(0, 8, 24, 8, 0, 31, 60, 0), 8);
         CHECK.due("64 starts, the span ends ahead of the next", eyes.safe(0, 8, 39, 8, 0, 31, 60, 0), 8);
         CHECK.due("66 starts", eyes.safe(0, 8, 24, 8, 0, 32, 60, 0), -1);
+        ManyEyes five = new ManyEyes(5, 4);
+        Check.rule(five, "go 16;");
+        CHECK.due("60 starts", five.safe(0, 8, 72, 8, 0, 11, 60, 0), 8);
+        CHECK.due("65 starts", five.safe(0, 8, 72, 8, 0, 12, 60, 0), -1);
         CHECK.due("96 starts", eyes.safe(0, 8, 40, 8, 0, 31, 60, 0), -1);
         int[][] wrong = {{-1, 8, 8, 8, 0, 0, 1, 0}, {1, 8, 8, 8, 0, 0, 1, 0}, {0, -1, 8, 8, 0, 0, 1, 0},
             {0, 8, 64, 8, 0, 0, 1, 0}, {0, 8, 8, -1, 0, 0, 1, 0}, {0, 8, 8, 64, 0, 0, 1, 0}, {0, 8, 8, 8, -1, 0, 1, 0},

@@ -116,6 +116,22 @@ public final class ImageTest {
         CHECK.due("it did not hit", eyes.flown(3), 0);
         CHECK.due("its second tick", eyes.tick(1, 2), 16);
         CHECK.due("it has no third", eyes.tick(2, 2), -10000000);
+        Check.rule(eyes, "rest tick=1;turn 9999;");
+        eyes.lens(0, 0);
+        eyes.lens(1, 0);
+        eyes.pair(0, 1, 1);
+        eyes.fly(1, 8, 8, 8, 60, 8);
+        eyes.image();
+        eyes.pair(1, 0, 1);
+        eyes.fly(0, 8, 8, 8, 60, 0);
+        CHECK.due("the other's pair", eyes.tick(0, 201), 0);
+        eyes.back();
+        CHECK.due("rested", eyes.flown(4), 1);
+        CHECK.due("did not hit", eyes.flown(3), 0);
+        CHECK.due("over", eyes.flown(5), 2);
+        CHECK.due("head", eyes.flown(2), 16);
+        CHECK.due("the pair", eyes.tick(0, 200), 0);
+        CHECK.due("no second pair", eyes.tick(0, 201), -10000000);
     }
 
     private static void roomAgain() {

@@ -8,6 +8,8 @@ public final class ReadTest {
         keeps();
         keepsByEach();
         keepsAsTheWorldIs();
+        keepsFromItsPlace();
+        notInShortNumbers();
         parting();
         partingOfTheKept();
         noParting();
@@ -121,6 +123,38 @@ public final class ReadTest {
         CHECK.due("hit on the last turn's tick", comes.kept(0), 1);
         comes.turned(0, 0);
         CHECK.due("hit ahead of it", comes.kept(0), 0);
+    }
+
+    private static void keepsFromItsPlace() {
+        ManyEyes eyes = with("go 16;");
+        eyes.read(40, 24, 8);
+        eyes.turned(0, 0);
+        eyes.turned(0, 0);
+        CHECK.due("from x 2 it hits on tick 1", eyes.kept(0), 1);
+        eyes.turned(0, 0);
+        CHECK.due("and has no tick 2", eyes.kept(0), 0);
+        eyes.back();
+        CHECK.due("no rules in the first image", eyes.about(5), 0);
+        CHECK.due("a rule anew", Check.rule(eyes, "go 16;"), 0);
+        CHECK.due("a read flight anew", eyes.read(8, 40, 24), 0);
+        CHECK.due("its first turn", eyes.turned(0, 0), 1);
+        CHECK.due("its second", eyes.turned(0, 0), 2);
+        CHECK.due("from y 2 it hits on tick 1", eyes.kept(0), 1);
+        eyes.turned(0, 0);
+        CHECK.due("and has no tick 2 again", eyes.kept(0), 0);
+    }
+
+    private static void notInShortNumbers() {
+        ManyEyes eyes = with("turn 1000-999;", "");
+        eyes.fly(0, 8, 8, 8, 1, 4);
+        CHECK.due("7 - 7 in four bits", eyes.tick(0, 0), 0);
+        CHECK.due("parted in whole numbers", eyes.parts(0, 2), 2);
+        eyes.fly(0, 8, 8, 8, 1, 4);
+        eyes.read(8, 8, 8);
+        eyes.turned(0, 1);
+        CHECK.due("kept in whole numbers", eyes.kept(0), 1);
+        eyes.fly(0, 8, 8, 8, 1, 4);
+        CHECK.due("one is", eyes.kept(-1), 1);
     }
 
     private static void parted(String what, ManyEyes eyes, int row, int... want) {

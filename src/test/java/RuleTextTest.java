@@ -16,6 +16,8 @@ public final class RuleTextTest {
         untold();
         tooMany();
         theFirstAndTheLeast();
+        oneBehindTheOther();
+        manyTokens();
         CHECK.end();
     }
 
@@ -123,6 +125,10 @@ public final class RuleTextTest {
         faulty("go 1.5;", 1, 4);
         faulty("go " + (char) 233 + ";", 1, 3);
         faulty("go " + (char) 0 + ";", 1, 3);
+        faulty("" + (char) 0, 1, 0);
+        faulty("go 1;" + (char) 0, 1, 5);
+        faulty("go 1;" + (char) 255, 1, 5);
+        faulty("go 1" + (char) 254 + ";", 1, 4);
         faulty("GO 1;", 1, 0);
         faulty("go Tick;", 1, 3);
         faulty("go ticks;", 1, 3);
@@ -222,6 +228,9 @@ public final class RuleTextTest {
         fine("go --------1-(1);");
         fine("go min((((((((1))))))),1);");
         faulty("go min(((((((((1)))))))),1);", 3, 14);
+        fine("go 0" + "+min(1,2)".repeat(12) + ";");
+        fine("rest 0=" + "--1-max(1,2)*".repeat(9) + "1;");
+        fine("rest " + "not not not 1=1 and ".repeat(9) + "1=1;");
     }
 
     private static void secondTimes() {
@@ -252,6 +261,36 @@ public final class RuleTextTest {
         faulty(EIGHT_LETS + "turn 1;go 1;1", 1, 76);
         faulty(EIGHT_LETS + "turn 1;go 1;rest", 6, 76);
         fine(EIGHT_LETS + "turn 1;go 1;  \n");
+    }
+
+    /** Of what one text told or left open nothing is left for the next. */
+    private static void oneBehindTheOther() {
+        ManyEyes eyes = new ManyEyes(4, 4);
+        CHECK.due("tells A", Check.rule(eyes, "let A 9999;turn 1;"), 0);
+        CHECK.due("A is not told", Check.rule(eyes, "go A;"), -1);
+        CHECK.due("fault", eyes.fault(0), 5);
+        CHECK.due("leaves eight open", Check.rule(eyes, "go ((((((((;"), -1);
+        CHECK.due("fault 1", eyes.fault(0), 1);
+        CHECK.due("opens eight", Check.rule(eyes, "turn ((((((((1))))))));"), 1);
+        CHECK.due("no fault", eyes.fault(0), 0);
+        CHECK.due("no place", eyes.fault(1), -1);
+        CHECK.due("an empty one", Check.rule(eyes, ""), 2);
+        CHECK.due("flies", eyes.fly(2, 8, 8, 8, 3, 4), 3);
+        CHECK.due("without turning", eyes.flown(2), 8);
+        CHECK.due("or running over", eyes.flown(5), 0);
+    }
+
+    private static void manyTokens() {
+        faulty(";".repeat(300), 1, 0);
+        faulty("go " + "(".repeat(297), 3, 11);
+        faulty("go 1" + ";".repeat(296), 1, 5);
+        faulty("a1".repeat(150), 1, 0);
+        faulty("go " + "1".repeat(297), 2, 3);
+        faulty("go " + "a".repeat(297), 1, 3);
+        faulty(" ".repeat(299) + "x", 1, 299);
+        faulty(" ".repeat(298) + "go", 1, 300);
+        fine(" ".repeat(300));
+        fine("\n".repeat(280) + "rest tick>=1 or 1=1;");
     }
 
     private static void theFirstAndTheLeast() {

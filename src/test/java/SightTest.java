@@ -81,6 +81,14 @@ public final class SightTest {
         CHECK.due("way (16, -2) is above the world on k = 5", eyes.ray(8, 8, 7, 0, false), 0);
         CHECK.due("its far", eyes.ray(8, 8, 7, 0, true), 41);
         CHECK.due("way (16, -2) from lower is not", eyes.ray(8, 10, 7, 0, false), 50);
+        eyes.mark(2 * 8, 55);
+        CHECK.due("the row's end is not the next row's start", eyes.ray(0, 24, 8, 0, false), 30);
+        CHECK.due("the end of row 2 likewise", eyes.ray(0, 40, 8, 0, true), 41);
+        CHECK.due("nor out below", eyes.ray(16, 0, 24, 0, true), 41);
+        eyes.mark(3 * 8, 56);
+        CHECK.due("the end of row 2 again", eyes.ray(0, 40, 8, 0, true), 41);
+        eyes.mark(3 * 8, 0);
+        eyes.mark(2 * 8, 0);
         eyes.mark(5 * 8, 60);
         CHECK.due("way (-2, 16) is left of the world on k = 5", eyes.ray(8, 8, 25, 0, true), 41);
         CHECK.due("way (-2, 16) from further right", eyes.ray(10, 8, 25, 0, true), 5);
@@ -99,6 +107,8 @@ public final class SightTest {
         one.body(3, 0, 0, 7);
         one.body(3, 0, 0, 8);
         CHECK.due("the lowest body", one.ray(8, 8, 8, 0, false), 7);
+        one.body(0, 0, 0, 4);
+        CHECK.due("a body in the first cell", one.ray(40, 8, 40, 0, false), 4);
         one.mark(0, 9);
         CHECK.due("a ray has left the place's own cell on k = 1", one.ray(8, 8, 8, 0, false), 7);
     }
@@ -197,6 +207,12 @@ public final class SightTest {
         CHECK.due("width 0 tells it, least", more.ends(9, 8, 8, 0, false), 100);
         CHECK.due("width 0 tells it, greatest", more.ends(9, 8, 8, 0, true), 100);
         CHECK.due("by the head: round to side 0", more.ends(9, 8, 8, 55, true), 0);
+        more.body(8 + 3, 2, 0, 30);
+        CHECK.due("(2 * 100 + 30) / 4 on tick 0", more.take(1, 8, 8, 0, 0), 57);
+        more.body(2, 1, 1, 240);
+        CHECK.due("on tick 0", more.take(0, 8, 8, 0, 0), 240);
+        CHECK.due("on tick 1", more.take(0, 8, 8, 0, 1), 25);
+        CHECK.due("ends are of tick 0", more.ends(8, 8, 8, 0, false), 225);
         CHECK.due("side below", more.ends(-1, 8, 8, 0, true), -1);
         CHECK.due("side above", more.ends(64, 8, 8, 0, true), -1);
         CHECK.due("x out", more.ends(9, 128, 8, 0, true), -1);
@@ -215,6 +231,9 @@ public final class SightTest {
         CHECK.due("100 against 0", eyes.width(9, 40, 8, 8, 0), 0);
         CHECK.due("a side and itself", eyes.width(9, 9, 8, 8, 0), 0);
         CHECK.due("the ray itself tells more", eyes.width(8, 9, 8, 8, 0), 0);
+        eyes.body(4 + 8, 0, 1, 60);
+        CHECK.due("of tick 0: still", eyes.width(8, 40, 8, 8, 0), 2);
+        wideWidths();
         CHECK.due("one below", eyes.width(-1, 0, 8, 8, 0), -1);
         CHECK.due("one above", eyes.width(64, 0, 8, 8, 0), -1);
         CHECK.due("other below", eyes.width(0, -1, 8, 8, 0), -1);
@@ -223,6 +242,22 @@ public final class SightTest {
         CHECK.due("y out", eyes.width(0, 0, 8, 96, 0), -1);
         CHECK.due("head above", eyes.width(0, 0, 8, 8, 64), -1);
         CHECK.due("head below", eyes.width(0, 0, 8, 8, -1), -1);
+    }
+
+    /** Side 40 sees a mark by itself, side 8 a greater one by its wide end alone. */
+    private static void wideWidths() {
+        ManyEyes eyes = new ManyEyes(9, 9);
+        eyes.mark(4 * 9 + 2, 100);
+        CHECK.due("0, 25, 33 .. against 100", eyes.width(40, 8, 72, 72, 0), 0);
+        eyes.mark(4 * 9 + 6, 100);
+        CHECK.due("100 and 100", eyes.width(40, 8, 72, 72, 0), 0);
+        eyes.mark(4 * 9 + 6, 90);
+        eyes.mark(5 * 9 + 6, 255);
+        CHECK.due("116 - 48 and 111 - 43: the least of like ones", eyes.width(8, 40, 72, 72, 0), 6);
+        eyes.mark(4 * 9 + 2, 120);
+        CHECK.due("now the widest", eyes.width(8, 40, 72, 72, 0), 7);
+        eyes.body(5 * 9 + 6, 1, 0, 1);
+        CHECK.due("but not if a body is there on tick 0", eyes.width(8, 40, 72, 72, 0), 0);
     }
 
     private static void bodiesMoved() {
@@ -252,9 +287,17 @@ public final class SightTest {
         eyes.mark(1, 0);
         eyes.lens(24, 0);
         CHECK.due("all lenses: now in the second", eyes.same(0, -3, 2, 8, 8, 0), 0);
+        eyes.body(2 * 6, 0, 0, 70);
+        CHECK.due("up, within the second lens's ray", eyes.same(1, 0, -1, 8, 8, 0), 1);
+        CHECK.due("down, within it", eyes.same(1, 0, 1, 8, 8, 0), 1);
+        CHECK.due("to the place's own cell", eyes.same(1, 0, -2, 8, 8, 0), 0);
+        CHECK.due("out below", eyes.same(1, 0, 3, 8, 8, 0), -1);
+        CHECK.due("to the last row", eyes.same(1, 0, 2, 8, 8, 0), 1);
+        CHECK.due("aside", eyes.same(1, 1, 0, 8, 8, 0), 0);
+        CHECK.due("up and into the first lens's row", eyes.same(1, 4, -2, 8, 8, 0), 0);
         eyes.body(1, 0, 0, 80);
         CHECK.due("hidden by a nearer one", eyes.same(0, 1, 0, 8, 8, 0), 1);
         CHECK.due("the lower body in the same cell", eyes.same(0, -2, 0, 8, 8, 0), 0);
-        CHECK.due("a higher body in the same cell", eyes.same(1, 2, 0, 8, 8, 0), 0);
+        CHECK.due("a higher body in the same cell", eyes.same(2, 2, 0, 8, 8, 0), 0);
     }
 }

@@ -7,6 +7,7 @@ public final class WorldTest {
         marks();
         bodies();
         marksOnTicks();
+        bodiesThatLeave();
         about();
         CHECK.end();
     }
@@ -97,6 +98,22 @@ public final class WorldTest {
         CHECK.due("tick above", eyes.markOf(7, 1000), -1);
         CHECK.due("cell below", eyes.markOf(-1, 0), -1);
         CHECK.due("cell above", eyes.markOf(30, 0), -1);
+    }
+
+    /** From the middle of five by five, all ways: on no other cell on any tick than the one that is due. */
+    private static void bodiesThatLeave() {
+        for (int wayX = -2; wayX <= 2; wayX++) {
+            for (int wayY = -2; wayY <= 2; wayY++) {
+                ManyEyes eyes = new ManyEyes(5, 5);
+                CHECK.due("body", eyes.body(12, wayX, wayY, 8), 0);
+                for (int tick = 0; tick < 4; tick++) {
+                    for (int cell = 0; cell < 25; cell++) {
+                        boolean there = cell % 5 == 2 + tick * wayX && cell / 5 == 2 + tick * wayY;
+                        CHECK.due("way " + wayX + ", " + wayY, eyes.markOf(cell, tick), there ? 8 : 0);
+                    }
+                }
+            }
+        }
     }
 
     private static void about() {
