@@ -58,10 +58,8 @@ public final class ManyEyes {
     private boolean textRead;
 
     public ManyEyes(int w, int h) {
-        int wide = Math.max(World.LEAST_SIZE, Math.min(World.MOST_SIZE, w));
-        int high = Math.max(World.LEAST_SIZE, Math.min(World.MOST_SIZE, h));
-        now = new State(wide, high);
-        saved = new State(wide, high);
+        now = new State(w, h);
+        saved = new State(w, h);
         sight = new Sight(now.world);
         flyer = new Flyer(now, sight);
         parser = new Parser();
@@ -86,8 +84,8 @@ public final class ManyEyes {
             return NONE;
         }
         int number = world.bodies;
-        world.bodyX[number] = cell % world.w;
-        world.bodyY[number] = cell / world.w;
+        world.bodyY[number] = world.rowOf(cell);
+        world.bodyX[number] = cell - world.bodyY[number] * world.w;
         world.bodyWayX[number] = wayX;
         world.bodyWayY[number] = wayY;
         world.bodyMark[number] = mark;
@@ -478,6 +476,10 @@ public final class ManyEyes {
         return divisor > 0 ? -Math.floorDiv(-value, divisor) : 0;
     }
 
+    private static void copyRow(int[] from, int[] to) {
+        System.arraycopy(from, 0, to, 0, Math.min(from.length, to.length));
+    }
+
     /** All that an image holds. */
     private static final class State {
         final World world;
@@ -513,8 +515,8 @@ public final class ManyEyes {
     }
 
     private static final class World {
-        static final int LEAST_SIZE = 4;
-        static final int MOST_SIZE = 24;
+        private static final int LEAST_SIZE = 4;
+        private static final int MOST_SIZE = 24;
 
         final int w;
         final int h;
@@ -539,6 +541,10 @@ public final class ManyEyes {
 
         boolean isCell(int cell) {
             return isWithin(cell, 0, own.length - 1);
+        }
+
+        int rowOf(int cell) {
+            return w > 0 ? cell / w : 0;
         }
 
         boolean isBody(int number) {
@@ -587,10 +593,6 @@ public final class ManyEyes {
             copyRow(other.bodyMark, bodyMark);
             bodies = other.bodies;
         }
-    }
-
-    private static void copyRow(int[] from, int[] to) {
-        System.arraycopy(from, 0, to, 0, Math.min(from.length, to.length));
     }
 
     private static final class Eye {

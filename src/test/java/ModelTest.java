@@ -4,7 +4,7 @@ import java.util.Random;
 
 /** All promises: long runs of calls by chance (always the same ones), each answer compared with the model's. */
 public final class ModelTest {
-    private static final int RUNS = 400;
+    private static final int RUNS = 250;
     private static final int CALLS = 500;
 
     private final Random random;
