@@ -17,16 +17,22 @@ public final class EdgeFlightTest {
         outOfTheWorld();
         onTheNextTick();
         rests();
+        compares();
+        notAndOr();
+        letters();
         divides();
         boundAtEachStep();
         bothSidesAlways();
         shortBounds();
         shortForAllThatIsBrought();
+        shortForTheFlightAlone();
         overOfTheResting();
         aheadOfTheDelay();
         flownOut();
         ticksOut();
         thoseThatWereThere();
+        thoseThatAreNotThere();
+        trialsWithoutLenses();
         spansOfStarts();
         atMostSixtyFour();
         withinTicks();
@@ -242,6 +248,60 @@ public final class EdgeFlightTest {
         CALLS.due("over of " + ask, eyes.flown(5), over);
     }
 
+    private static void compares() {
+        CALLS.says("SUM one of < <= > >= = # (unlike) SUM");
+        int[][] sums = {{4, 5}, {5, 5}, {6, 5}, {-5, -4}, {-5, -5}, {-5, -6}, {-1, 0}, {0, 0}, {1, 0}, {-5, 5}, {5, -5}};
+        for (int[] sum : sums) {
+            int left = sum[0];
+            int right = sum[1];
+            so(left + "<" + right, left < right, 0);
+            so(left + "<=" + right, left <= right, 0);
+            so(left + ">" + right, left > right, 0);
+            so(left + ">=" + right, left >= right, 0);
+            so(left + "=" + right, left == right, 0);
+            so(left + "#" + right, left != right, 0);
+            so("not " + left + "<" + right, left >= right, 0);
+        }
+    }
+
+    private static void notAndOr() {
+        CALLS.says("EITHER: BOTH {or BOTH}. BOTH: ASK {and ASK}. ASK: not ASK");
+        String[] asks = {"1=2", "1=1"};
+        for (int bits = 0; bits < 8; bits++) {
+            boolean a = (bits & 1) != 0;
+            boolean b = (bits & 2) != 0;
+            boolean c = (bits & 4) != 0;
+            String first = asks[a ? 1 : 0];
+            String second = asks[b ? 1 : 0];
+            String third = asks[c ? 1 : 0];
+            so(first + " or " + second + " or " + third, a || b || c, 0);
+            so(first + " and " + second + " and " + third, a && b && c, 0);
+            so(first + " or " + second + " and " + third, a || b && c, 0);
+            so(first + " and " + second + " or " + third, a && b || c, 0);
+            so("not " + first + " or " + second + " and not " + third, !a || b && !c, 0);
+            so("not " + first + " and " + second + " or not " + third, !a && b || !c, 0);
+        }
+        for (int nots = 0; nots <= 8; nots++) {
+            so("not ".repeat(nots) + "1=1", nots % 2 == 0, 0);
+            so("not ".repeat(nots) + "1=2", nots % 2 == 1, 0);
+        }
+    }
+
+    private static void letters() {
+        CALLS.says("let LETTER SUM ; (LETTER: one TOKEN of A .. H)");
+        String lets = "let A tick+1;let B A-3;let C -1-B;let D 4;let E D+1;let F E+1-tick;let G -F;let H G-1;";
+        String[] names = {"A", "B", "C", "D", "E", "F", "G", "H"};
+        int[] first = {1, -2, 1, 4, 5, 6, -6, -7};
+        int[] second = {2, -1, 0, 4, 5, 5, -5, -6};
+        for (int i = 0; i < 8; i++) {
+            ManyEyes eyes = with(lets + "turn " + names[i] + ";go " + names[i] + "+8;");
+            CALLS.due("two ticks", eyes.fly(0, 24, 24, 8, 2, 0), 2);
+            CALLS.due(names[i] + " on tick 0", eyes.tick(0, 0), first[i]);
+            CALLS.due(names[i] + " on tick 1", eyes.tick(1, 0), second[i]);
+            CALLS.due("go by " + names[i], eyes.tick(0, 1), first[i] + 8);
+        }
+    }
+
     private static void divides() {
         CALLS.says("/ cuts towards 0, by 0 it is 0");
         so("7/2=3", true, 0);
@@ -396,6 +456,15 @@ public final class EdgeFlightTest {
         return eyes;
     }
 
+    private static void shortForTheFlightAlone() {
+        CALLS.says("bits: SHORT NUMBERS of so many, 0: none");
+        ManyEyes eyes = with("turn 100-99;go 100-99;", "");
+        CALLS.answers(eyes, "fly(0, 63, 8, 7, 1, 4) = 1", "tick(0, 1) = 0", "safe(0, 63, 63, 8, 7, 7, 1, 0) = 63",
+            "fly(0, 63, 8, 7, 1, 4) = 1", "flown(3) = 0", "parts(0, 2) = 2", "fly(0, 63, 8, 7, 1, 4) = 1", "read(8, 8, 8) = 0",
+            "turned(0, 1) = 1", "kept(0) = 1", "fly(0, 63, 8, 7, 1, 4) = 1", "kept(NONE) = 1", "fly(0, 63, 8, 7, 1, 0) = 1",
+            "flown(3) = 1", "flown(5) = 0");
+    }
+
     private static void overOfTheResting() {
         CALLS.says("OVER: how often BOUND (also that of 1000000) took something away in all TICKS (that of the RESTING too).");
         ManyEyes eyes = with("let A 9999*9999;rest tick=2;", "let A 9999*9999;rest 0=0;", "let A 9999*9999;go 16;", "");
@@ -435,7 +504,7 @@ public final class EdgeFlightTest {
 
     /** The furnished one flew five ticks, with four lenses and three pairs. */
     private static void ticksOut() {
-        CALLS.says("-10000000 for others.");
+        CALLS.says("Of a TICK of it (that it turned or went): 0 TURN, 1 GO, 2 X, 3 Y, 4 HEAD ahead of it, 100 + lens: TAKE, 200 + pair: PAIR (of those that were there as it was flown). -10000000 for others.");
         CALLS.changesNothing(Worlds::furnished, "tick(-1, 0) = NOTICK", "tick(5, 0) = NOTICK", "tick(5, 100) = NOTICK",
             "tick(-1, 100) = NOTICK", "tick(-1, 200) = NOTICK", "tick(60, 0) = NOTICK", "tick(MIN, 0) = NOTICK",
             "tick(MAX, 0) = NOTICK", "tick(0, -1) = NOTICK", "tick(0, 5) = NOTICK", "tick(0, 99) = NOTICK",
@@ -463,6 +532,30 @@ public final class EdgeFlightTest {
             "fly(0, 8, 8, 8, 61, 0) = NONE", "tick(0, 102) = NOTICK", "fly(0, 8, 8, 8, 1, 0) = 1", "tick(0, 102) = 8",
             "tick(0, 201) = 0", "tick(1, 102) = NOTICK", "image() = 1", "lens(8, 0) = 3", "fly(0, 8, 8, 8, 1, 0) = 1",
             "tick(0, 103) = 0", "back() = 1", "tick(0, 103) = NOTICK", "tick(0, 102) = 8");
+    }
+
+    private static void thoseThatAreNotThere() {
+        CALLS.says("0 if it isn't there");
+        ManyEyes eyes = crossing(1, 2, 1);
+        eyes.back();
+        Check.rule(eyes, "turn 1+lens 0+lens 1+pair 0;");
+        eyes.body(1, 0, 1, 2);
+        eyes.body(12, 0, 0, 1);
+        CALLS.answers(eyes, "image() = 1", "fly(0, 8, 8, 0, 2, 0) = 2", "tick(0, 0) = 1", "lens(8, 0) = 0", "lens(23, 0) = 1",
+            "pair(0, 1, 1) = 0", "fly(0, 8, 8, 0, 2, 0) = 2", "tick(0, 0) = 4", "tick(0, 100) = 2", "lens(24, 0) = 2",
+            "pair(0, 2, 1) = 1", "fly(0, 8, 8, 0, 2, 0) = 2", "back() = 1", "fly(0, 8, 8, 0, 2, 0) = 2", "tick(0, 0) = 1",
+            "tick(1, 0) = 1", "tick(0, 100) = NOTICK", "tick(0, 200) = NOTICK");
+    }
+
+    /** A return takes lenses away that trials (kept, parts, safe) have seen by. */
+    private static void trialsWithoutLenses() {
+        CALLS.says("its TAKE; 0 if it isn't there");
+        ManyEyes eyes = with("turn lens 0+lens 1;go lens 1*16;", "");
+        eyes.mark(7, 3);
+        CALLS.answers(eyes, "read(8, 24, 8) = 0", "turned(0, 0) = 1", "image() = 2", "kept(NONE) = 2", "lens(0, 0) = 0",
+            "kept(NONE) = 1", "parts(2, 0) = NONE", "back() = 2", "kept(NONE) = 2", "parts(1, 2) = NONE", "lens(32, 0) = 0",
+            "kept(NONE) = 2", "parts(1, 2) = 2", "parts(1, 1) = 40", "lens(0, 0) = 1", "safe(0, 40, 40, 24, 8, 8, 1, 0) = 40",
+            "kept(NONE) = 1", "back() = 2", "lens(32, 0) = 0", "kept(NONE) = 2", "safe(0, 40, 40, 24, 8, 8, 1, 0) = NONE");
     }
 
     private static void spansOfStarts() {

@@ -13,6 +13,7 @@ public final class EdgeSightTest {
         raysNearAndFar();
         raysCutDownwards();
         raysOfTheOwnCell();
+        raysToBodies();
         raysOut();
         takesOfWidths();
         takesGoingRound();
@@ -37,7 +38,7 @@ public final class EdgeSightTest {
     }
 
     private static void lensesWithin() {
-        CALLS.says("A LENS: its number.");
+        CALLS.says("LENSES 0 .. 15: a SIDE by the head and a WIDTH (0 .. 7).");
         CALLS.answers(Worlds.fresh(), "lens(0, 0) = 0", "lens(63, 7) = 1", "lens(0, 7) = 2", "lens(63, 0) = 3",
             "lens(0, 0) = 4", "about(3) = 5", "covered(0) = 4", "covered(63) = 3", "covered(56) = 1", "covered(55) = 0");
     }
@@ -142,9 +143,9 @@ public final class EdgeSightTest {
             "ray(0, 33, 7, 0, false) = 0", "ray(15, 47, 8, 0, true) = 1", "ray(15, 48, 8, 0, true) = 41");
     }
 
-    /** k goes from 1, and each step leaves a cell: a ray that begins in a marked cell tells what lies behind. */
+    /** k goes from 1, and each step goes a whole cell on: no ray comes to its own cell, whatever is in it. */
     private static void raysOfTheOwnCell() {
-        CALLS.says("for k = 1 .. 40");
+        CALLS.says("(The place's own CELL counts, too.)");
         ManyEyes eyes = new ManyEyes(6, 5);
         eyes.mark(14, 9);
         eyes.mark(16, 8);
@@ -153,6 +154,17 @@ public final class EdgeSightTest {
             CALLS.due("from its own cell to " + side, eyes.ray(40, 40, side, 0, false), sees ? 8 : 0);
             CALLS.due("its far to " + side, eyes.ray(40, 40, side, 0, true), sees ? 2 : 41);
         }
+    }
+
+    private static void raysToBodies() {
+        CALLS.says("What a RAY from a place (in THE WORLD) to a SIDE takes on a TICK (far false)");
+        ManyEyes eyes = new ManyEyes(6, 5);
+        CALLS.answers(eyes, "body(0, 0, 0, 1) = 0", "body(29, 0, 0, 255) = 1", "ray(40, 8, 40, 0, false) = 1",
+            "ray(40, 8, 40, 999, true) = 2", "ray(8, 72, 8, 0, false) = 255", "ray(8, 72, 8, 999, true) = 5",
+            "body(0, 0, 0, 9) = 2", "ray(40, 8, 40, 0, false) = 1", "body(5, -1, 0, 7) = 3", "ray(40, 8, 40, 3, false) = 1",
+            "ray(40, 8, 40, 4, false) = 7", "ray(40, 8, 40, 4, true) = 1", "ray(40, 8, 40, 5, false) = 1",
+            "ray(40, 8, 8, 0, false) = 7", "ray(40, 8, 8, 2, true) = 1", "ray(40, 8, 8, 3, true) = 41",
+            "ray(40, 8, 40, 6, false) = 1", "mark(0, 200) = true", "ray(40, 8, 40, 0, false) = 1");
     }
 
     private static void raysOut() {

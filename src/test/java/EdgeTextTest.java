@@ -159,6 +159,10 @@ public final class EdgeTextTest {
         faulty("go  1" + "+1".repeat(147) + "+", 1, 300);
         faulty(" ".repeat(296) + "go 1", 1, 300);
         faulty(" ".repeat(299) + ";", 1, 299);
+        faulty(";".repeat(300), 1, 0);
+        faulty("go1" + ";".repeat(297), 1, 4);
+        fine("go-" + "1-".repeat(147) + "1 ;");
+        fine("go-1" + "*-1+-1".repeat(49) + ";\n");
         faulty("go " + "9".repeat(296) + ";", 2, 3);
         fine("go " + "0".repeat(292) + "9999;");
         faulty("go " + "0".repeat(291) + "10000;", 2, 3);
@@ -287,7 +291,7 @@ public final class EdgeTextTest {
     }
 
     private static void numbers() {
-        CALLS.says("(NUMBERS, 0 .. 9999)");
+        CALLS.says("2 a NUMBER that isn't one of those told.");
         fine("go 0;");
         fine("go 9999;");
         fine("go 00;");
@@ -406,6 +410,10 @@ public final class EdgeTextTest {
         ManyEyes eyes = new ManyEyes(4, 4);
         CALLS.due("eight are left open", Check.rule(eyes, "go ((((((((1"), NONE);
         CALLS.due("none is open in the next text", Check.rule(eyes, "go ((((((((1))))))));"), 0);
+        CALLS.due("one with a great number", Check.rule(eyes, "go 9999;"), 1);
+        CALLS.due("an empty one", Check.rule(eyes, ""), 2);
+        CALLS.answers(eyes, "fly(1, 8, 8, 8, 1, 4) = 1", "flown(5) = 1", "fly(2, 8, 8, 8, 1, 4) = 1", "flown(5) = 0",
+            "tick(0, 1) = 0");
     }
 
     private static void secondTimes() {

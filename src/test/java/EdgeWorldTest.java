@@ -87,6 +87,10 @@ public final class EdgeWorldTest {
     }
 
     private static void marksWithin() {
+        CALLS.says("each with a MARK (0 .. 255; 0: empty, at first)");
+        CALLS.due("NONE", ManyEyes.NONE, -1);
+        CALLS.answers(new ManyEyes(5, 4), "markOf(0, 0) = 0", "mark(0, 255) = true", "mark(0, 256) = false",
+            "markOf(0, 0) = 255", "mark(0, 0) = true", "mark(0, -1) = false", "markOf(0, 0) = 0", "about(8) = 0");
         CALLS.says("A CELL's MARK: true.");
         ManyEyes eyes = new ManyEyes(5, 4);
         CALLS.answers(eyes, "mark(0, 0) = true", "about(8) = 0", "mark(0, 1) = true", "markOf(0, 0) = 1",
