@@ -499,6 +499,16 @@ public final class EdgeSightTest {
         CALLS.due("2 * 63 / 64 is 1: the last of three lenses tells it", eyes.same(0, moveX, moveY, P, P, 0), 0);
         CALLS.due("not by another head", eyes.same(0, moveX, moveY, P, P, 32), 1);
         CALLS.due("not from another place", eyes.same(0, moveX, moveY, 8, 8, 0), 1);
+        ManyEyes ahead = Worlds.ring();
+        ahead.body(Worlds.ringCell(0), 0, 0, 63);
+        CALLS.answers(ahead, "ray(200, 200, 0, 0, false) = 63", "same(0, -3, 0, 200, 200, 0) = 1", "lens(32, 7) = 0",
+            "same(0, -3, 0, 200, 200, 0) = 1", "lens(1, 0) = 1", "same(0, -3, 0, 200, 200, 0) = 1", "lens(0, 0) = 2",
+            "same(0, -3, 0, 200, 200, 0) = 0", "back() = 0", "body(25, 0, 0, 63) = 0", "lens(48, 0) = 0",
+            "ray(200, 200, 48, 0, false) = 63", "same(0, 22, 0, 200, 200, 0) = 0", "same(0, 1, 1, 200, 200, 0) = 1");
+        ManyEyes marked = Worlds.ring();
+        Worlds.markSides(marked, 0, 63, 9);
+        CALLS.answers(marked, "body(25, 0, 0, 8) = 0", "same(0, 9, 0, 200, 200, 0) = 1", "lens(30, 3) = 0",
+            "same(0, 9, 0, 200, 200, 0) = 1", "same(0, 9, 0, 200, 200, 18) = 0");
         ManyEyes first = Worlds.ring();
         first.lens(20, 0);
         first.lens(30, 0);
