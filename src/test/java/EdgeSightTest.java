@@ -1,3 +1,5 @@
+import java.math.BigInteger;
+
 /** The edges of promises 5 to 12, sentence by sentence. */
 public final class EdgeSightTest {
     private static final Check CHECK = new Check("EdgeSightTest");
@@ -25,6 +27,7 @@ public final class EdgeSightTest {
         endsWithoutALens();
         endsOfTheSidesWeight();
         endsRounded();
+        endsOfAllRows();
         endsInCommon();
         endsGoingRound();
         endsOut();
@@ -346,6 +349,50 @@ public final class EdgeSightTest {
         ends(2, 0, 20, 0, 2);
         ends(2, 1, 20, 0, 5);
         ends(2, 0, 18, 0, 8);
+    }
+
+    /** Not by the formula, but by which sums the other rays can come to; each take from 0 to 255, each ray. */
+    private static void endsOfAllRows() {
+        CALLS.says("of all rows of what RAYS take (0 .. 255 each) by which each LENS by itself can have its TAKE, the least and the greatest of this SIDE");
+        for (int width = 0; width <= 7; width++) {
+            int all = (width + 1) * (width + 1);
+            for (int i = -width; i <= width; i++) {
+                int own = width + 1 - Math.abs(i);
+                BigInteger sums = sumsOfOthers(width, i);
+                for (int take = 0; take <= 255; take++) {
+                    int least = 0;
+                    while (!canBe(sums, own * least, take * all, all)) {
+                        least++;
+                    }
+                    int greatest = 255;
+                    while (!canBe(sums, own * greatest, take * all, all)) {
+                        greatest--;
+                    }
+                    ends(width, take, 20 + i, least, greatest);
+                }
+            }
+        }
+    }
+
+    /** A bit for each sum that the rays of a lens but the one at i can come to. */
+    private static BigInteger sumsOfOthers(int width, int i) {
+        BigInteger sums = BigInteger.ONE;
+        for (int other = -width; other <= width; other++) {
+            int weight = width + 1 - Math.abs(other);
+            for (int part = 1; part <= 128 && other != i; part *= 2) {
+                sums = sums.or(sums.shiftLeft(part * weight));
+            }
+        }
+        return sums;
+    }
+
+    private static boolean canBe(BigInteger sums, int own, int from, int all) {
+        for (int sum = from; sum < from + all; sum++) {
+            if (sum >= own && sums.testBit(sum - own)) {
+                return true;
+            }
+        }
+        return false;
     }
 
     private static void endsInCommon() {
